@@ -35,6 +35,13 @@ public final class AskTest {
     Due.due("24 months later", x.asks(0, 804, 804), 160);
     // 30 hundredths of 151 are 45.3.
     Due.due("120 months later", x.asks(0, 900, 900), 196);
+    x.law(1, 7, 50);
+    Due.due("by the land's own law", x.asks(0, 900, 900), 196);
+    NineLands third = Due.life("3b0-200*10");
+    third.law(3, 7, 5);
+    Due.due("a third land", third.asks(3, 792, 792), 210);
+    third.law(3, 1, 800);
+    Due.due("from its own age on", third.asks(3, 812, 812), 210);
     x.law(0, 1, 0);
     // 225 hundredths more are 339.75.
     Due.due("75 years later", x.asks(0, 900, 900), 490);
@@ -81,6 +88,16 @@ public final class AskTest {
 
   private static void when() {
     Due.section("promise 18");
+    NineLands third = Due.life("3b0-200*10");
+    third.law(3, 1, 850);
+    third.law(3, 7, 50);
+    Due.due("asked at once, by its own age", third.when(3, 850), 850);
+    Due.due("dead before, and no month above 900", third.when(3, 849), -9);
+    NineLands one = Due.life("0b0-10*1");
+    one.law(0, 0, 10);
+    Due.due("one of 1", one.asks(0, 780, 780), 1);
+    Due.due("it is worth asking", one.when(0, 780), 780);
+    Due.due("900 is not one of its months", third.when(3, 1200), 898);
     NineLands x = owing151();
     Due.due("nothing more: at once", x.when(0, 1200), 780);
     x.law(0, 7, 10);
@@ -89,6 +106,7 @@ public final class AskTest {
     Due.due("short life", x.when(0, 790), 780);
     Due.due("its age", x.when(0, 780), 780);
     Due.due("dead before", x.when(0, 779), -9);
+    Due.due("dead at birth", x.when(0, 0), -9);
     Due.due("nothing is owed", x.when(1, 1200), -9);
     x.law(0, 1, 889);
     Due.due("900 at most", x.when(0, 1200), 889);

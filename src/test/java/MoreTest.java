@@ -47,6 +47,15 @@ public final class MoreTest {
     Due.due("in land 1, put together", put.edge(1, 10), 10);
     put.kind(1, 0);
     Due.due("in land 1, by its own", put.edge(1, 10), 110);
+    put = Due.life("0s0-10*10", "1b10-30*40");
+    put.pact(0, 1, true);
+    put.kind(1, 2);
+    put.law(1, 0, 30);
+    // 10 hundredths of 900 are 90, two thirds of it 60; with 4 months of 40: 106 * 24 / 34 is 74.
+    Due.due("owed", put.owed(1), 60);
+    Due.due("the first month brings more", put.edge(1, 40), 1);
+    // By pays of 1: 90 * 21 / 31 is 60, 90 * 22 / 32 is 61.
+    Due.due("pays put together", put.edge(1, 1), 2);
   }
 
   private static void edgeEnds() {
@@ -127,6 +136,13 @@ public final class MoreTest {
     x.law(1, 8, 0);
     Due.due("a work that does not count", x.hangs(), 0);
 
+    NineLands full = new NineLands();
+    for (int i = 0; i < 20; i++) {
+      Due.spell(full, "0b" + i + "-" + (i + 1) + "*" + (i == 19 ? 60 : 40));
+    }
+    full.law(0, 0, 1);
+    Due.due("20 spells: the last", full.hangs(), 19);
+
     // Without the spell in land 1 land 0 owes more: nothing is taken off.
     NineLands ring = Due.life("1b0-1*0", "0b1-2*0");
     ring.law(0, 0, 0);
@@ -172,6 +188,10 @@ public final class MoreTest {
     put.law(4, 3, 1300);
     put.pact(4, 5, true);
     Due.due("in 4: all of the least", put.year(0, 1), 1300);
+    put.law(4, 3, 0);
+    // 12 months of 100 and one of nothing: 10 hundredths of 1200.
+    Due.due("in 4: pays put together", put.year(100, 1), 120);
+    put.law(4, 3, 1300);
     put.law(4, 8, 1);
     put.law(5, 8, 7);
     Due.due("in neither", put.year(0, 1), 0);
@@ -183,6 +203,9 @@ public final class MoreTest {
     put.pact(4, 5, true);
     Due.due("in 5", put.year(0, 0), 5);
     Due.due("a thirteenth", put.year(0, 1), 100);
+    put.law(4, 3, 0);
+    // 12 months of 999 are 11988: 1198 then, and a thirteenth of it.
+    Due.due("a thirteenth of the pays", put.year(999, 1), 92);
   }
 
   private static void yearEnds() {

@@ -60,6 +60,12 @@ public final class RowTest {
     x.show(1, false);
     puts(x, 150, 0, 0, 0, 0, 0);
     Due.due("as it is now", x.judge(), -9);
+    x.kind(0, 1);
+    x.law(0, 3, 400);
+    x.show(1, true);
+    x.law(2, 3, 500);
+    puts(x, 400, 0, 200, 0, 0, 0);
+    Due.due("each by its own kind", x.judge(), -9);
   }
 
   private static void judgeInTheRing() {
@@ -80,8 +86,10 @@ public final class RowTest {
     Due.due("the other is not", x.judge(), 1);
     puts(x, 145, 54, 0, 0, 0, 0);
     Due.due("cut, and so for 0 alone", x.judge(), 1);
+    x.law(0, 5, 100);
     puts(x, 150);
-    Due.due("what the row lacks is 0", x.judge(), 1);
+    Due.due("what the row lacks is 0, whatever was told before", x.judge(), 1);
+    x.law(0, 5, 10);
     puts(x, 139, 55, 0, 0, 0, 60);
     Due.due("all others of the row", x.judge(), 1);
     puts(x, 139, 1, 0, 0, 0, 60);
@@ -106,6 +114,7 @@ public final class RowTest {
     x.show(0, false);
     x.law(0, 2, 30);
     x.law(5, 8, 0);
+    x.law(4, 7, 3);
     x.kind(0, 0);
     x.kind(4, 5);
     x.pact(0, 1, false);
@@ -124,6 +133,8 @@ public final class RowTest {
     Due.due("the pact", x.pact(1, 0, true), 0);
     Due.due("law", x.law(0, 2, 11), 20);
     Due.due("another law", x.law(5, 8, 3), 15);
+    Due.due("the same law of another land", x.law(5, 2, 3), 10);
+    Due.due("a third law", x.law(4, 7, 3), 0);
     Due.due("kind", x.kind(0, 1), 3);
     Due.due("another kind", x.kind(4, 2), 0);
     Due.due("the tape stays", x.count(3), 2);

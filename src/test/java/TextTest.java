@@ -158,6 +158,9 @@ public final class TextTest {
     Due.due("no room, whatever the text", x.spell(), -6);
     Due.due("the tape stays still", x.count(3), 8);
     Due.due("spells", x.count(0), 20);
+    Due.due("shown", x.count(1), 20);
+    Due.due("the last", x.show(19, false), 1);
+    Due.due("shown but the last", x.count(1), 19);
     Due.due("refusals", x.count(16), 2);
   }
 
