@@ -50,4 +50,16 @@ final class Due {
     }
     return x;
   }
+
+  /** A new object in which the lands from 0 on owe these sums: each by a month of its own and its least. */
+  static NineLands owing(int... sums) {
+    NineLands x = new NineLands();
+    for (int land = 0; land < sums.length; land++) {
+      spell(x, land + "b" + land + "-" + (land + 1) + "*0");
+      x.law(land, 0, 0);
+      x.law(land, 3, sums[land]);
+      x.kind(land, 1);
+    }
+    return x;
+  }
 }
