@@ -458,6 +458,19 @@ public final class BoundAskTest {
     Due.due("pay -1", paid.year(-1, 1), SUM + 4);
     Due.due("pay 1: 12 by rate are 1", paid.year(1, 1), 1);
     Due.due("nothing is told by it", paid.count(5), 120);
+    NineLands put = Due.life("4s0-1*0");
+    put.law(4, 0, 13);
+    put.kind(4, 2);
+    Due.due("12 of 100 put together with one of 0, in its own land", put.year(100, 1), 120);
+    put.law(4, 0, 14);
+    Due.due("13 of 14", put.year(100, 1), 0);
+    put.law(4, 0, 13);
+    put.pact(4, 5, true);
+    put.law(4, 8, 1);
+    put.law(4, 2, 13);
+    // A year in land 5: 13 hundredths of 12 times 999 are 1558, and one month of 13 is its own.
+    Due.due("in the other's land", put.year(999, 0), 5);
+    Due.due("a thirteenth of 1558", put.year(999, 1), 119);
   }
 
   private static void year900() {
