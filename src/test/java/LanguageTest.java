@@ -6,7 +6,9 @@ import java.lang.reflect.Modifier;
 import java.nio.file.Files;
 import java.nio.file.Path;
 import java.util.Arrays;
+import java.util.HashMap;
 import java.util.List;
+import java.util.Map;
 import java.util.Set;
 import java.util.TreeSet;
 import java.util.regex.Matcher;
@@ -34,7 +36,9 @@ public final class LanguageTest {
     for (Class<?> type : types()) {
       members(type);
     }
-    source(Files.readString(Path.of("src/main/java/NineLands.java")));
+    String source = Files.readString(Path.of("src/main/java/NineLands.java"));
+    source(source);
+    calls(source);
     room();
     Due.end();
   }
@@ -118,6 +122,34 @@ public final class LanguageTest {
       wrong(closes && opened > 0 && line - opened > 60, "a long method at line " + (opened + 1));
       opened = closes ? 0 : opened;
     }
+  }
+
+  /** Rule 11: as no method bears another's name, nor calls itself by others, the names tell how deep calls go. */
+  private static void calls(String source) {
+    Due.section("the depth of calls");
+    String code = source.replaceAll("(?s)/\\*.*?\\*/", "").replaceAll("//[^\n]*", "").replaceAll("'.'", "' '");
+    Map<String, String> bodies = new HashMap<>();
+    Matcher methods = Pattern.compile("(?ms)^( +)(?:public|private) [^;={}]*?(\\w+)\\([^;={}]*\\) \\{$(.*?)^\\1\\}$").matcher(code);
+    while (methods.find()) {
+      wrong(bodies.put(methods.group(2), methods.group(3)) != null, methods.group(2) + " twice");
+    }
+    int declared = types().stream().mapToInt(type -> type.getDeclaredMethods().length).sum();
+    // Two constructors are written out, and are found beside the methods.
+    Due.due("methods found", bodies.size(), declared + 2);
+    for (String name : bodies.keySet()) {
+      int depth = depth(bodies, name, 1);
+      wrong(depth > 8, name + " goes " + depth + " deep");
+    }
+  }
+
+  /** How deep a method stands with all that it calls, the library's own among them; 9 and no deeper, if it never ends. */
+  private static int depth(Map<String, String> bodies, String name, int depth) {
+    int deepest = depth;
+    Matcher called = Pattern.compile("\\b(?!(?:if|for|while|switch|return)\\b)(\\w+)\\(").matcher(bodies.getOrDefault(name, ""));
+    while (called.find() && depth <= 8) {
+      deepest = Math.max(deepest, depth(bodies, called.group(1), depth + 1));
+    }
+    return deepest;
   }
 
   /** Calls of every method make no objects at all; only the constructor does. */

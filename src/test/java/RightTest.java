@@ -5,6 +5,7 @@ public final class RightTest {
     rightsAndLimits();
     lacks();
     ring();
+    all();
     turns();
     kindsInTheRing();
     Due.end();
@@ -142,6 +143,24 @@ public final class RightTest {
     Due.due("land 6", x.owed(6), -1);
     Due.due("land -1", x.owed(-1), -1);
     Due.due("refusals", x.count(11), 2);
+  }
+
+  private static void all() {
+    Due.section("promise 16");
+    int[] sums = {1, 20, 300, 4000, 500, 70};
+    NineLands x = Due.owing(sums);
+    Due.due("all six", x.all(), 4891);
+    for (int land = 0; land < 6; land++) {
+      x.show(land, false);
+      Due.due("all but " + land, x.all(), 4891 - sums[land]);
+      x.show(land, true);
+    }
+    x.kind(5, 4);
+    x.law(5, 5, 1);
+    // One hundredth of what the other five owe is 48, cut.
+    Due.due("less by one kind", x.all(), 4891 - 48);
+    Due.due("the most", Due.owing(9999, 9999, 9999, 9999, 9999, 9999).all(), 59994);
+    Due.due("nothing", new NineLands().all(), 0);
   }
 
   /** Land 1 gains by a turn what it has more than land 0, till land 0 owes nothing. */
